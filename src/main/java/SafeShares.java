@@ -888,7 +888,6 @@ public final class SafeShares {
 
         /** How many items, or NONE: the fault is then at tokenStart, the length at an early end. */
         int parseInto(Safe safe) {
-            safe.begin(0, 2);
             tokenEnd = 0;
             if (!readSafeItem(safe)) {
                 return NONE;

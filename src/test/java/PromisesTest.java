@@ -212,6 +212,9 @@ public final class PromisesTest {
     private static void readFaults() {
         reads("safe 0 1;", 1);
         reads("safe0 1;holder0 0;", 2);
+        reads("safe 1 1;way 1 0;", 2);
+        reads("xafe 1 1;", -10);
+        reads("safez 1 1;", -10);
         reads("safe 1 1;holder 0 0;holder 0 0;holder 0 0;holder 0 0;holder 0 0;holder 0 0;", 7);
         reads("safe 1 1;holder 0 0;holder 0 0;holder 0 0;holder 0 0;holder 0 0;holder 0 0;holder 0 0;", -10 - 75);
         reads("safe 1 1;holder 0 0;holder 0 0;holder 0 0;holder 0 0;holder 0 0;holder 0 0; way 1 1;", 8);
@@ -494,6 +497,11 @@ public final class PromisesTest {
         threeOf(x, "two apart", 0, 33, 42);
         x.tell(2, 94);
         threeOf(x, "two rows of three each", 0, 26, 43);
+        int[] fourAndThree = {1, 2, 3, 4, 6, 8};
+        for (int p = 0; p < 6; p++) {
+            x.tell(p, fourAndThree[p]);
+        }
+        threeOf(x, "a row of four and one of three", 0, 48, 0);
         x.forget();
         x.tell(0, 1);
         x.tell(1, 2);
@@ -679,6 +687,32 @@ public final class PromisesTest {
         x.holder(0, 0);
         due("envelope(0, 1): two come, so one is afraid", x.envelope(0, 1), 0);
         due("envelope(0, 0): all alike", x.envelope(0, 0), 0);
+        x.safe(3, 1);
+        x.holder(5, 90);
+        x.holder(0, 0);
+        x.holder(0, 0);
+        due("envelope(0, 0): the sold one stays", x.envelope(0, 0), 0);
+        x.safe(3, 1);
+        x.holder(5, 90);
+        x.holder(5, 90);
+        due("envelope(0, 1): the first stays", x.envelope(0, 1), 10);
+        x.safe(3, 2);
+        x.holder(0, 0);
+        x.holder(5, 90);
+        x.holder(5, 1);
+        due("envelope(0, 0): the second stays", x.envelope(0, 0), 1);
+        x.safe(3, 3);
+        x.holder(5, 90);
+        x.holder(5, 90);
+        x.holder(5, 90);
+        due("envelope(7, 0): two wrong by the same undo one another", x.envelope(7, 0), 2);
+        due("envelope(7, 1)", x.envelope(7, 1), 10);
+        x.safe(3, 2);
+        x.holder(5, 90);
+        x.holder(5, 90);
+        due("envelope(7, 1): sold by nothing on day 7", x.envelope(7, 1), 1);
+        due("envelope(0, 1)", x.envelope(0, 1), 1);
+        due("envelope(8, 1)", x.envelope(8, 1), 0);
         bad(x, "envelope(-1, 0)", s -> s.envelope(-1, 0));
         bad(x, "envelope(991, 0)", s -> s.envelope(991, 0));
         bad(x, "envelope(0, -1)", s -> s.envelope(0, -1));
@@ -788,12 +822,40 @@ public final class PromisesTest {
         due("part(0) stays", x.part(0), 1);
         due("count(7) stays", x.count(7), 1);
         due("status(1) stays", x.status(1), 3);
+        imageOfTries();
         promise = 29;
         x.safe(8, 3);
         due("image(1) over the old one", x.image(1), 1);
         x.safe(0, 1);
         x.from(1);
         due("count(1)", x.count(1), 3);
+    }
+
+    private static void imageOfTries() {
+        SafeShares x = new SafeShares();
+        x.safe(5, 1);
+        x.holder(2, 1);
+        x.tell(0, 9);
+        x.day(1);
+        x.day(1);
+        x.image(0);
+        x.day(1);
+        x.image(1);
+        x.safe(6, 2);
+        for (int d = 0; d < 8; d++) {
+            x.day(0);
+        }
+        x.from(0);
+        due("count(3) from an image", x.count(3), 2);
+        due("undo() from an image", x.undo(), 1);
+        due("count(3) then", x.count(3), 1);
+        due("count(4) then", x.count(4), 0);
+        x.from(1);
+        due("count(4) from an image", x.count(4), 1);
+        due("tell(0, 1) from an image", x.tell(0, 1), 9);
+        due("day(1) from an image", x.day(1), 3);
+        due("undo() from an image", x.undo(), 3);
+        due("count(4) then", x.count(4), 1);
     }
 
     private static void status() {
