@@ -1,49 +1,6 @@
-import java.util.function.ToLongFunction;
-
 /** Every promise of the document by answers worked out by hand: ordinary inputs, edges, wrong inputs. */
-public final class PromisesTest {
-    private static final int BAD = 0, NO = 1, FULL = 2;
-    private static int wrong = 0;
-    private static int promise = 0;
-
+public final class PromisesTest extends Checks {
     private PromisesTest() {
-    }
-
-    private static void due(String call, long got, long want) {
-        if (got != want) {
-            wrong++;
-            System.out.println("promise " + promise + ": " + call + " answered " + got + ", due is " + want);
-        }
-    }
-
-    /** A refused call answers as told, counts once by its reason and changes nothing else. */
-    private static void refused(SafeShares x, int reason, long answer, String call, ToLongFunction<SafeShares> made) {
-        long digest = x.digest();
-        int[] before = {x.status(BAD), x.status(NO), x.status(FULL)};
-        due(call, made.applyAsLong(x), answer);
-        due(call + ": digest behind it", x.digest(), digest);
-        for (int r = 0; r < 3; r++) {
-            due(call + ": status " + r, x.status(r), before[r] + (r == reason ? 1 : 0));
-        }
-    }
-
-    private static void bad(SafeShares x, String call, ToLongFunction<SafeShares> made) {
-        refused(x, BAD, -2, call, made);
-    }
-
-    private static long digestOf(long... values) {
-        long h = 1063;
-        for (long v : values) {
-            h = 31 * h + v;
-        }
-        return h;
-    }
-
-    private static void put(SafeShares x, String text) {
-        x.clear();
-        for (int i = 0; i < text.length(); i++) {
-            x.type(text.charAt(i));
-        }
     }
 
     private static void reads(String text, int want) {
@@ -55,17 +12,6 @@ public final class PromisesTest {
             due("digest behind the fault in '" + text + "'", x.digest(), digest);
             due("status behind the fault in '" + text + "'", x.status(BAD) + x.status(NO) + x.status(FULL), 0);
         }
-    }
-
-    /** Shares 59 76 93 13 30 47, all told truly. */
-    private static SafeShares trueOnes(int holders) {
-        SafeShares x = new SafeShares();
-        x.safe(42, 2);
-        x.way(1, 17);
-        for (int h = 0; h < holders; h++) {
-            x.holder(0, 0);
-        }
-        return x;
     }
 
     private static void newObject() {
@@ -171,9 +117,9 @@ public final class PromisesTest {
 
     private static void typeAndClear() {
         SafeShares x = new SafeShares();
-        promise = 6;
+        about("promise 6");
         due("clear()", x.clear(), 0);
-        promise = 5;
+        about("promise 5");
         due("type(0)", x.type(0), 1);
         due("type(127)", x.type(127), 2);
         bad(x, "type(-1)", s -> s.type(-1));
@@ -183,7 +129,7 @@ public final class PromisesTest {
         }
         refused(x, FULL, -4, "type(32) of a 151st", s -> s.type(32));
         bad(x, "type(128) of a 151st", s -> s.type(128));
-        promise = 6;
+        about("promise 6");
         due("clear()", x.clear(), 150);
         due("count(7)", x.count(7), 0);
         due("clear()", x.clear(), 0);
@@ -422,17 +368,17 @@ public final class PromisesTest {
             }
             for (int who = 0; who < 64; who++) {
                 boolean few = Integer.bitCount(who) < enough;
-                promise = 13;
+                about("promise 13");
                 due("finds(" + who + ") of enough " + enough, x.finds(who), few ? -1 : 71);
-                promise = 14;
+                about("promise 14");
                 due("knows(" + who + ") of enough " + enough, x.knows(who), few ? 97 : 1);
             }
         }
         SafeShares y = trueOnes(2);
-        promise = 13;
+        about("promise 13");
         bad(y, "finds(4)", s -> s.finds(4));
         bad(y, "finds(-1)", s -> s.finds(-1));
-        promise = 14;
+        about("promise 14");
         bad(y, "knows(4)", s -> s.knows(4));
         bad(y, "knows(-1)", s -> s.knows(-1));
     }
@@ -461,7 +407,7 @@ public final class PromisesTest {
 
     private static void tellAndForget() {
         SafeShares x = new SafeShares();
-        promise = 16;
+        about("promise 16");
         due("tell(0, 0)", x.tell(0, 0), -1);
         due("tell(5, 96)", x.tell(5, 96), -1);
         due("tell(5, 3)", x.tell(5, 3), 96);
@@ -473,7 +419,7 @@ public final class PromisesTest {
         bad(x, "tell(6, 0)", s -> s.tell(6, 0));
         bad(x, "tell(0, -2)", s -> s.tell(0, -2));
         bad(x, "tell(0, 97)", s -> s.tell(0, 97));
-        promise = 17;
+        about("promise 17");
         due("forget()", x.forget(), 0);
         x.tell(1, 1);
         x.tell(2, 2);
@@ -528,11 +474,11 @@ public final class PromisesTest {
 
     private static void threeOf(SafeShares x, String state, long agree, long liars, long guess) {
         long digest = x.digest();
-        promise = 18;
+        about("promise 18");
         due("agree() with " + state, x.agree(), agree);
-        promise = 19;
+        about("promise 19");
         due("liars() with " + state, x.liars(), liars);
-        promise = 20;
+        about("promise 20");
         due("guess() with " + state, x.guess(), guess);
         due("digest() behind these", x.digest(), digest);
         due("status(0) behind these", x.status(0), 0);
@@ -783,12 +729,12 @@ public final class PromisesTest {
 
     private static void imageAndFrom() {
         SafeShares x = trueOnes(2);
-        promise = 30;
+        about("promise 30");
         refused(x, NO, -3, "from(0)", s -> s.from(0));
         refused(x, NO, -3, "from(1)", s -> s.from(1));
         bad(x, "from(-1)", s -> s.from(-1));
         bad(x, "from(2)", s -> s.from(2));
-        promise = 29;
+        about("promise 29");
         bad(x, "image(-1)", s -> s.image(-1));
         bad(x, "image(2)", s -> s.image(2));
         x.tell(4, 4);
@@ -797,7 +743,7 @@ public final class PromisesTest {
         long digest = x.digest();
         due("image(1)", x.image(1), 1);
         due("digest() behind an image", x.digest(), digest);
-        promise = 30;
+        about("promise 30");
         refused(x, NO, -3, "from(0): the other one", s -> s.from(0));
         x.undo();
         x.undo();
@@ -805,9 +751,9 @@ public final class PromisesTest {
         x.holder(5, 5);
         x.day(7);
         x.safe(1, 1);
-        promise = 29;
+        about("promise 29");
         due("image(0)", x.image(0), 1);
-        promise = 30;
+        about("promise 30");
         due("from(1)", x.from(1), 1);
         due("digest() from an image", x.digest(), digest);
         due("undo() goes on", x.undo(), 1);
@@ -823,7 +769,7 @@ public final class PromisesTest {
         due("count(7) stays", x.count(7), 1);
         due("status(1) stays", x.status(1), 3);
         imageOfTries();
-        promise = 29;
+        about("promise 29");
         x.safe(8, 3);
         due("image(1) over the old one", x.image(1), 1);
         x.safe(0, 1);
@@ -927,12 +873,9 @@ public final class PromisesTest {
             PromisesTest::part, PromisesTest::imageAndFrom, PromisesTest::imageAndFrom, PromisesTest::status,
             PromisesTest::count, PromisesTest::digest};
         for (int i = 0; i < promises.length; i++) {
-            promise = i + 1;
+            about("promise " + (i + 1));
             promises[i].run();
         }
-        System.out.println(wrong == 0 ? "all answers are as due" : wrong + " answers are not as due");
-        if (wrong != 0) {
-            System.exit(1);
-        }
+        end();
     }
 }
