@@ -632,7 +632,7 @@ public final class SafeShares {
         }
 
         private static int inverse(int distance) {
-            int size = Math.abs(distance);
+            int size = distance < 0 ? -distance : distance;
             if (size < 0 || size >= INVERSES.length) {
                 return 0;
             }
